@@ -891,7 +891,7 @@ public final class ElectionHouse {
 
     /** Unlike bodies of one size, by how many of each party they have, and the ways that lead to each. */
     private static final class Tally {
-        private static final int SLOTS = 2048;
+        private static final int SLOTS = 1024;
 
         private final int[] keys = new int[MOST_BODIES];
         private final long[] ways = new long[MOST_BODIES];
@@ -949,6 +949,11 @@ public final class ElectionHouse {
         private final int[] has = new int[PARTIES];
         private final int[] gets = new int[PARTIES];
         private final boolean[] enough = new boolean[PARTIES];
+        /** What the city tells, looked up once a count: some hundred bodies ask for it. */
+        private final int[] candidates = new int[MOST_CITIZENS];
+        private final int[] candidateParties = new int[MOST_CITIZENS];
+        private final int[] yes = new int[PARTIES * PARTIES];
+        private int candidateCount;
         private long[] result = new long[IN_ALL + 1];
         private long[] scratch = new long[IN_ALL + 1];
         private Tally ahead = new Tally();
@@ -980,6 +985,7 @@ public final class ElectionHouse {
             if (!countAllWays(plan, first)) {
                 return SPENT;
             }
+            lookAtCity();
             startFromBody();
             int size = session.bodySize();
             for (int i = first; i < plan.length(); i++) {
@@ -1025,6 +1031,20 @@ public final class ElectionHouse {
 
         private long setsOf(int n, int k) {
             return n >= 0 && n < SIDE && k >= 0 && k <= n ? sets[n * SIDE + k] : 0L;
+        }
+
+        private void lookAtCity() {
+            for (int at = 0; at < PARTIES * PARTIES; at++) {
+                yes[at] = city.saysYes(at / PARTIES, at % PARTIES) ? 1 : 0;
+            }
+            candidateCount = 0;
+            for (int c = 0; c < city.size() && candidateCount < MOST_CITIZENS; c++) {
+                if (city.isThere(c)) {
+                    candidates[candidateCount] = c;
+                    candidateParties[candidateCount] = city.partyOf(c);
+                    candidateCount++;
+                }
+            }
         }
 
         private void startFromBody() {
@@ -1129,9 +1149,7 @@ public final class ElectionHouse {
             for (int party = 0; party < PARTIES; party++) {
                 int votes = 0;
                 for (int voters = 0; voters < PARTIES; voters++) {
-                    if (city.saysYes(voters, party)) {
-                        votes += has[voters];
-                    }
+                    votes += yes[voters * PARTIES + party] * has[voters];
                 }
                 enough[party] = votes >= needed;
             }
@@ -1141,13 +1159,13 @@ public final class ElectionHouse {
         private int chooseFirst(int n) {
             Arrays.fill(gets, 0);
             int chosen = 0;
-            for (int c = 0; c < city.size() && c < MOST_CITIZENS; c++) {
-                int party = city.partyOf(c);
-                if (city.isThere(c) && City.isParty(party) && enough[party]) {
-                    countParty(party);
+            for (int i = 0; i < candidateCount; i++) {
+                int party = candidateParties[i];
+                if (City.isParty(party) && enough[party]) {
+                    gets[party]++;
                     chosen++;
                     if (chosen >= n) {
-                        return c;
+                        return candidates[i];
                     }
                 }
             }
