@@ -1,3 +1,4 @@
+import java.math.BigInteger;
 import java.nio.charset.StandardCharsets;
 
 /** For each promise of the document: ordinary inputs, the edges that it names, and wrong inputs. */
@@ -252,6 +253,7 @@ public final class PromiseTests {
         refused("draw 00;elect by 1", 5, 1);
         refused("draw 41;elect by 1", 5, 1);
         refused("draw 005;elect by 1", 5, 1);
+        refused("draw 123;elect by 1", 5, 1);
         refused("draw 99999999999999999999;elect by 1", 5, 1);
         refused("draw 5", 6, 0);
         refused("draw 5  ", 8, 0);
@@ -676,14 +678,59 @@ public final class PromiseTests {
         take(x, "draw 20;draw 17;elect by 1");
         same("counted", x.chances(), 0);
         same("in all", x.ways(41), 137846528820L * 1140L);
+        closeToTheMostWays(x);
         // Rows that can't fill count as well.
         take(x, "draw 20;choose 40 by 1;draw 20;elect by 1");
         x.there(0, false);
         same("spent", x.chances(), -2);
     }
 
+    /** Of all rows of three draws the two that come closest to the bound from below and from above. */
+    private static void closeToTheMostWays(ElectionHouse x) {
+        long most = 1000000000000000L;
+        long below = 0;
+        long above = Long.MAX_VALUE;
+        String textBelow = "";
+        String textAbove = "";
+        for (int a = 1; a <= 40; a++) {
+            for (int b = 1; b <= a; b++) {
+                for (int c = 1; c <= b; c++) {
+                    BigInteger ways = sets(40, a).multiply(sets(a, b)).multiply(sets(b, c));
+                    String text = "draw " + a + ";draw " + b + ";draw " + c + ";elect by 1";
+                    if (ways.bitLength() > 60) {
+                        continue;
+                    }
+                    long n = ways.longValueExact();
+                    if (n <= most && n > below) {
+                        below = n;
+                        textBelow = text;
+                    }
+                    if (n > most && n < above) {
+                        above = n;
+                        textAbove = text;
+                    }
+                }
+            }
+        }
+        same("close enough", below > most / 20 * 19 && above < most / 20 * 21, true);
+        take(x, textBelow);
+        same("counted: " + textBelow, x.chances(), 0);
+        same("in all", x.ways(41), below);
+        take(x, textAbove);
+        same("spent: " + textAbove, x.chances(), -2);
+        same("in all, as before", x.ways(41), below);
+    }
+
+    private static BigInteger sets(int n, int k) {
+        BigInteger c = BigInteger.ONE;
+        for (int i = 0; i < k; i++) {
+            c = c.multiply(BigInteger.valueOf(n - i)).divide(BigInteger.valueOf(i + 1));
+        }
+        return c;
+    }
+
     private static void chancesSpentByBodies() {
-        // Of 10 of each party 18 are drawn: more than 600 unlike bodies; 11 are drawn: 364 - 4 * 1 of them.
+        // Of 10 of each party 18 are drawn: more than 600 unlike bodies; 11 are drawn: 360 of them.
         ElectionHouse x = full();
         take(x, "draw 18;elect by 1");
         same("spent", x.chances(), -2);
