@@ -22,7 +22,7 @@ public final class FaceAndRules {
     public static void main(String[] args) throws Exception {
         face();
         nestedClasses();
-        if (args.length != 1) {
+        if (args.length < 1) {
             tell("the path of the source is not given");
         } else {
             scan(Files.readString(Path.of(args[0])));
