@@ -47,6 +47,11 @@ public final class ChancesSentences extends Sentences {
     private static void counted(ElectionHouse x, String text) {
         take(x, text);
         same("counted: " + text, x.chances(), 0);
+        long sum = 0;
+        for (int c = 0; c <= 40; c++) {
+            sum += x.ways(c);
+        }
+        same("each row elects one or can't fill: " + text, sum, x.ways(41));
     }
 
     private static void spent(ElectionHouse x, String text) {
@@ -365,12 +370,21 @@ public final class ChancesSentences extends Sentences {
                 ElectionHouse x = ofParties(a, b, c, d);
                 take(x, "draw " + (i % 40 + 1) + ";elect by 1");
                 same("unlike bodies " + bodies, x.chances(), bodies == 600 ? 0 : -2);
+                take(x, "draw 39;draw " + (i % 40 + 1) + ";elect by 1");
+                same("unlike bodies behind a second draw " + bodies, x.chances(), bodies == 600 ? 0 : -2);
                 counted += bodies == 600 ? 1 : 0;
                 spent += bodies == 601 ? 1 : 0;
             }
         }
         same("both sides of the bound were tried", counted > 0 && spent > 0, true);
-        spent(full(), "draw 18;elect by 1");
+        // A count that was spent leaves nothing to the next one.
+        ElectionHouse x = full();
+        spent(x, "draw 18;elect by 1");
+        counted(x, "draw 1;elect by 1");
+        waysAre(x, 40, 0, 10, 10, 10, 10);
+        spent(x, "draw 39;draw 18;elect by 1");
+        counted(x, "draw 2;draw 1;elect by 1");
+        waysAre(x, 1560, 0, 390, 390, 390, 390);
     }
 
     private static int unlike(int a, int b, int c, int d, int n) {
@@ -395,6 +409,28 @@ public final class ChancesSentences extends Sentences {
         long even = sets(20, 10).pow(2).longValueExact();
         same("the first of party 0", x.ways(0), (137846528820L + even) / 2);
         same("the first of party 1", x.ways(20), (137846528820L - even) / 2);
+        // Likewise where they come of unlike bodies: 10, 35 and 84 of them here, and a thousand rows of such.
+        ElectionHouse y = ofParties(10, 10, 10, 10);
+        counted(y, "draw 38;draw 36;draw 34;elect by 10");
+        same("in all", y.ways(41), 780L * 703 * 630);
+        // Every set of 34 comes as often; of party 0 all ten are in as many as leave six of the other thirty out.
+        long often = 780L * 703 * 630 / sets(40, 6).longValueExact();
+        same("the first of party 0", y.ways(0), sets(30, 6).longValueExact() * often);
+        manyCounts();
+    }
+
+    /** One object counts through more than a thousand bodies of all sizes, each time anew. */
+    private static void manyCounts() {
+        ElectionHouse x = full();
+        for (int n = 1; n <= 39; n = n == 14 ? 26 : n + 1) {
+            take(x, "draw 39;draw " + n + ";elect by 1");
+            same("draw " + n, x.chances(), 0);
+            // Each set of n comes of 40 - n sets of 39.
+            same("in all", x.ways(41), sets(40, n).longValueExact() * (40 - n));
+            long withoutFirst = sets(30, n).longValueExact() * (40 - n);
+            same("the first of party 0", x.ways(0), x.ways(41) - withoutFirst);
+            same("the first of party 1", x.ways(1), withoutFirst - sets(20, n).longValueExact() * (40 - n));
+        }
     }
 
     private static void rowsThatCouldFill() {

@@ -327,6 +327,12 @@ public final class CitySentences extends Sentences {
     }
 
     private static void words() {
+        for (char letter = 'a'; letter <= 'z'; letter++) {
+            refused("draw" + letter + " 5;elect by 1", 0, 0);
+            refused(letter + "draw 5;elect by 1", 0, 0);
+            refused("draw 5;elect" + letter + " by 1", 7, 0);
+            refused("draw 5;elect by" + letter + " 1", 13, 0);
+        }
         refused("Draw 5;elect by 1", 0, 0);
         refused("DRAW 5;elect by 1", 0, 0);
         refused("drawn 5;elect by 1", 0, 0);
