@@ -28,15 +28,15 @@ abstract class Sentences {
         document = Files.readString(Path.of(args[1])).replaceAll("```\\w*", " ").replaceAll("\\s+", " ");
     }
 
-    /** The part of the document behind one text and ahead of another; all of it must be quoted. */
+    /** The part of the document behind one text and ahead of another ("": up to its end); all of it must be quoted. */
     static void part(String from, String to) {
         closePart();
         if (document.isEmpty()) {
             return;
         }
         int start = document.indexOf(from);
-        int end = start < 0 ? -1 : document.indexOf(to, start + from.length());
-        if (end < 0) {
+        int end = to.isEmpty() ? document.length() : document.indexOf(to, start + from.length());
+        if (start < 0 || end < 0) {
             fail("the document has no part from '" + from + "' to '" + to + "'");
             return;
         }

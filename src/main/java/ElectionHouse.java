@@ -1120,9 +1120,11 @@ public final class ElectionHouse {
         }
 
         private boolean drawSets(int n, long ways) {
-            for (int a = 0; a <= Math.min(has[0], n); a++) {
+            // From the fewest that leave the other parties no more than they have: no product is made in vain.
+            int rest = has[2] + has[3];
+            for (int a = Math.max(0, n - has[1] - rest); a <= Math.min(has[0], n); a++) {
                 long withA = ways * setsOf(has[0], a);
-                for (int b = 0; b <= Math.min(has[1], n - a); b++) {
+                for (int b = Math.max(0, n - a - rest); b <= Math.min(has[1], n - a); b++) {
                     long withB = withA * setsOf(has[1], b);
                     gets[0] = a;
                     gets[1] = b;
